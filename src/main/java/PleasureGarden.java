@@ -767,9 +767,9 @@ public final class PleasureGarden {
 
         int suspicion(int party) {
             int sum = 0;
-            for (int stay = 0; stay < stays; stay++) {
-                for (int theft = 0; theft < thefts && who[stay] == party; theft++) {
-                    sum += saw(stay, theft) ? 1 : 0;
+            for (int theft = 0; theft < thefts; theft++) {
+                for (int stay = 0; stay < stays; stay++) {
+                    sum += who[stay] == party && saw(stay, theft) ? 1 : 0;
                 }
             }
             return sum;

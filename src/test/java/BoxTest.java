@@ -15,6 +15,7 @@ public final class BoxTest {
         waiters();
         lacking();
         notTwiceInAMinute();
+        lackingKeepsItsParty();
         ordersGoAway();
         CHECK.finish();
     }
@@ -223,6 +224,29 @@ public final class BoxTest {
         due("26 the third lacks", x.count(6), 1);
         x.minutes(1);
         due("26 and goes", x.count(6), 0);
+    }
+
+    private static void lackingKeepsItsParty() {
+        PleasureGarden x = Check.garden(99, 0);
+        for (int i = 0; i < 3; i++) {
+            x.box(0, 9);
+            x.enter(i, 1);
+            x.let(i, i);
+            x.order(i, i + 1);
+        }
+        x.minutes(1);
+        x.rise(1);
+        due("22 from the row's middle", x.count(6), 2);
+        x.ham(100);
+        x.minutes(2);
+        due("26 the one that lacked", x.party(0, 8), 1);
+        due("26 the one whose order went", x.party(1, 8), 0);
+        due("26 the one that stood behind", x.party(2, 8), 3);
+        x.order(0, 1);
+        x.let(1, 1);
+        x.order(1, 2);
+        x.rise(1);
+        due("22 not the first of the row", x.count(6), 1);
     }
 
     private static void ordersGoAway() {

@@ -89,6 +89,11 @@ public final class GardenTest {
             row.walk(i, i - 1, 60);
         }
         due("4 the longest", row.way(0, 15), 900);
+
+        PleasureGarden star = Check.garden(9, 0, 9, 0, 9, 0);
+        star.walk(1, 0, 2);
+        star.walk(0, 2, 3);
+        due("4 through the gate", star.way(1, 2), 5);
     }
 
     private static void rains() {

@@ -13,11 +13,15 @@ public final class ModelTest {
         {1, 2, 0, 2, 1, 4, 3, 2, 2, 0, 3, 0, 0, 0, 0, 0, 0, 0, 1, 2, 1, 0, 1, 1, 2, 1, 9, 4, 9, 4, 3, 4, 0, 0, 0, 3},
         {1, 1, 0, 0, 1, 30, 3, 1, 1, 1, 2, 0, 0, 0, 0, 0, 0, 0, 1, 1, 0, 0, 1, 0, 1, 0, 1, 0, 1, 0, 0, 0, 1, 1, 1, 2}};
 
+    /** A few short of what an object is used for: a text that is fed last takes several. */
+    private static final int CALLS = 480;
+
     private final Check check = new Check();
     private long seed;
     private PleasureGarden real;
     private Model model;
     private final StringBuilder calls = new StringBuilder();
+    private int made;
 
     public static void main(String[] args) {
         int runs = args.length > 0 ? Integer.parseInt(args[0]) : 300;
@@ -39,14 +43,15 @@ public final class ModelTest {
         real = new PleasureGarden();
         model = new Model();
         calls.setLength(0);
+        made = 0;
         int[] weights = WEIGHTS[number % WEIGHTS.length];
         if (weights[0] > 0) {
             layOut();
         }
-        for (int made = calls.toString().split("\n").length; made < 512 && check.allRight(); made++) {
+        while (made < CALLS && check.allRight()) {
             int method = pick(weights);
             if (method == 26 && below(4) > 0) {
-                made += feedText();
+                feedText();
             }
             int[] a = arguments(method);
             call(method, a[0], a[1], a[2]);
@@ -62,7 +67,7 @@ public final class ModelTest {
             call(0, 1 + below(below(2) == 0 ? 10 : 40), below(3) / 2, 0);
         }
         for (int i = 1; i < places; i++) {
-            call(1, i, below(i), 1 + below(6), 0);
+            call(1, i, below(i), 1 + below(6));
         }
         call(4, 0, 20 + below(280), 0);
     }
@@ -81,16 +86,16 @@ public final class ModelTest {
         return method;
     }
 
-    private void call(int method, int a, int b, int c, int... unused) {
+    private void call(int method, int a, int b, int c) {
+        made++;
         String told = NAMES[method] + "(" + a + ", " + b + ", " + c + ")";
         int want = model.call(method, a, b, c);
         calls.append(told).append(" = ").append(want).append('\n');
         check.due(told, onReal(method, a, b, c), want);
     }
 
-    private int feedText() {
+    private void feedText() {
         String text = below(5) == 0 ? noise() : text();
-        int fed = 0;
         for (int i = 0; i < text.length(); i += 4) {
             int n = Math.min(4, text.length() - i);
             int v = 0;
@@ -98,9 +103,7 @@ public final class ModelTest {
                 v |= text.charAt(i + j) << (8 * j);
             }
             call(25, n, v, 0);
-            fed++;
         }
-        return fed;
     }
 
     private String noise() {

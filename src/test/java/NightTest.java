@@ -13,6 +13,7 @@ public final class NightTest {
         foretold();
         thefts();
         theftsInMinuteZero();
+        minuteZeroEndsAheadOfAllElse();
         picturesBehindAllElse();
         stolenLimits();
         counts();
@@ -53,11 +54,21 @@ public final class NightTest {
         x.enter(0, 1);
         x.minutes(3);
         due("31 no rain", x.party(0, 2), 0);
-        due("31 thefts from 1", x.stolen(3, 0), 1);
+        due("31 thefts from 1", x.stolen(1, 0), 1);
         due("35 the old stays are no more", x.near(0), 1);
         x.close();
         due("32 dry", x.night(1, 1), 0);
         due("32 the first is kept", x.night(0, 2), 9);
+        x.enter(0, 1);
+        x.stolen(0, 0);
+        due("35 minute 0 of a later night", x.near(0), 1);
+        for (int i = 0; i < 7; i++) {
+            x.minutes(60);
+        }
+        x.minutes(59);
+        x.rain(479, 480);
+        x.close();
+        due("32 rain in the last minute", x.night(2, 1), 1);
     }
 
     private static void closesByNumbers() {
@@ -93,6 +104,10 @@ public final class NightTest {
     private static void foretold() {
         PleasureGarden x = Check.garden(99, 0);
         due("33 none closed", x.foretold(0), PleasureGarden.VOID);
+        x.close();
+        due("33 a dry one, for all rain", x.foretold(480), 0);
+        due("33 one closed", x.foretold(0), 0);
+        x = Check.garden(99, 0);
         Check.price(x, 0, 0, "p*10+n");
         Check.price(x, 2, 0, "n>3:100");
         night(x, 10, 5);
@@ -180,6 +195,24 @@ public final class NightTest {
         due("35 as it was at its end", x.near(0), 1);
         due("36 as it was at its end", x.doubt(2), 1);
         due("36 a later one", x.doubt(3), 0);
+    }
+
+    private static void minuteZeroEndsAheadOfAllElse() {
+        PleasureGarden x = Check.garden(99, 0, 9, 1);
+        x.walk(0, 1, 1);
+        x.enter(0, 1);
+        x.enter(1, 1);
+        x.go(0, 1);
+        x.rain(1, 2);
+        x.minutes(1);
+        x.stolen(0, 0);
+        x.stolen(0, 1);
+        x.stolen(1, 0);
+        x.stolen(1, 1);
+        due("35 rain in minute 1 is not in 0", x.near(0), 1);
+        due("35 who came in minute 1 is not in 0", x.near(1), 0);
+        due("35 rain in minute 1", x.near(2), 0);
+        due("35 came in minute 1", x.near(3), 1);
     }
 
     private static void picturesBehindAllElse() {

@@ -39,6 +39,7 @@ public final class PartyTest {
         due("7 BAD ahead of NOT", x.enter(0, 0), -1);
         x.place(100, 0);
         due("7 not sold", x.enter(10, 1), -2);
+        due("7 the last number, not sold", x.enter(299, 1), -2);
         due("7 ticket -1", x.enter(-1, 1), -1);
         due("7 ticket 300", x.enter(300, 1), -1);
         due("7 heads 21", x.enter(0, 21), -1);
@@ -146,6 +147,8 @@ public final class PartyTest {
         due("10 party -1", x.party(-1, 0), -1);
         x.close();
         due("10 none of the new night", x.party(0, 0), -1);
+        x.enter(9, 2);
+        tell(x, 2, 9, 0, 0, -1, -1, 7, 0, 0, 0);
     }
 
     private static void tell(PleasureGarden x, int... want) {

@@ -12,6 +12,7 @@ public final class PriceTest {
         many();
         inForce();
         values();
+        whatWasOnTheTape();
         names();
         refundsByRain();
         CHECK.finish();
@@ -102,11 +103,13 @@ public final class PriceTest {
         fault("((((((((1))))))))", -1);
         fault("(((((((((1)))))))))", 8);
         fault("((((((((1))))))))+((((((((1))))))))", -1);
+        fault("1:((((((((1))))))))", -1);
+        fault("1:(((((((((1)))))))))", 10);
         fault("1+((((((((2+(3)", 12);
         fault("(((((((1)+(((", 12);
         fault("p" + "+p".repeat(59), -1);
         fault("p" + ";p".repeat(59), -1);
-        fault("(p".repeat(1) + "+p".repeat(59), 120);
+        fault("(p" + "+p".repeat(59), 120);
     }
 
     private static void many() {
@@ -226,6 +229,16 @@ public final class PriceTest {
         due("30 nothing is paid", x.count(14), 0);
     }
 
+    private static void whatWasOnTheTape() {
+        PleasureGarden x = Check.garden(9, 0);
+        x.enter(0, 1);
+        due("28 a long fault", Check.price(x, 0, 0, "9+1;7+"), -106);
+        due("28 a short one", Check.price(x, 0, 0, "9+"), -102);
+        due("28 an empty one", x.price(0, 0), -100);
+        due("28 its beginning", Check.price(x, 0, 0, "9"), 0);
+        due("30 nothing of the earlier one", x.gives(0, 0, 0), 9);
+    }
+
     private static void names() {
         PleasureGarden x = Check.garden(99, 1, 9, 0);
         x.walk(0, 1, 1);
@@ -235,7 +248,7 @@ public final class PriceTest {
         for (String text : texts) {
             Check.price(x, 0, 199, text);
         }
-        Check.price(x, 0, 0, "c*100+g*10+t");
+        Check.price(x, 0, 0, "c*100+g*10+t+s*5000");
         x.rain(1, 3);
         x.rain(2, 4);
         x.rain(6, 7);
