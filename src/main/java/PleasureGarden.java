@@ -48,7 +48,7 @@ public final class PleasureGarden {
         if (!grounds.has(a) || !grounds.has(b)) {
             return BAD;
         }
-        int minutes = grounds.ways[a][b];
+        int minutes = grounds.minutesBetween(a, b);
         return minutes >= Grounds.FAR ? NO_WAY : minutes;
     }
 
@@ -107,7 +107,7 @@ public final class PleasureGarden {
         if (p.state != Party.AT || p.place == place) {
             return NOT;
         }
-        int minutes = grounds.ways[p.place][place];
+        int minutes = grounds.minutesBetween(p.place, place);
         if (minutes >= Grounds.FAR) {
             return NO_WAY;
         }
@@ -440,10 +440,10 @@ public final class PleasureGarden {
     private void seekShelter() {
         for (int i = 0; i < guests.count; i++) {
             Party p = guests.all[i];
-            boolean exposed = p.state == Party.AT && p.box == Boxes.NONE && !grounds.covered[p.place];
+            boolean exposed = p.state == Party.AT && p.box == Boxes.NONE && grounds.isOpen(p.place);
             int shelter = exposed ? grounds.nearestShelter(p.place) : Grounds.NONE;
             if (shelter != Grounds.NONE) {
-                setOff(p, shelter, grounds.ways[p.place][shelter]);
+                setOff(p, shelter, grounds.minutesBetween(p.place, shelter));
             }
         }
     }
@@ -453,9 +453,10 @@ public final class PleasureGarden {
         // Fixed ahead of the loop: an order put back at the row's end is not looked at again.
         int looks = Math.min(kitchen.waiters, kitchen.orders);
         for (int i = 0; i < looks; i++) {
-            Party p = guests.all[kitchen.party[0]];
+            int party = kitchen.party[0];
             int slices = kitchen.slices[0];
-            if (kitchen.serveFirst()) {
+            if (kitchen.serveFirst() && guests.has(party)) {
+                Party p = guests.all[party];
                 int paid = worth(price, p, slices);
                 p.slices += slices;
                 p.paid += paid;
@@ -548,12 +549,22 @@ public final class PleasureGarden {
             }
         }
 
+        /** The way's minutes; FAR or more if there is none. */
+        int minutesBetween(int a, int b) {
+            return has(a) && has(b) ? ways[a][b] : FAR;
+        }
+
+        boolean isOpen(int place) {
+            return has(place) && !covered[place];
+        }
+
         int nearestShelter(int from) {
             int best = NONE;
             int least = FAR;
             for (int place = GATE + 1; place < count; place++) {
-                if (covered[place] && ways[from][place] < least) {
-                    least = ways[from][place];
+                int minutes = minutesBetween(from, place);
+                if (covered[place] && minutes < least) {
+                    least = minutes;
                     best = place;
                 }
             }

@@ -275,6 +275,9 @@ public final class BoxEdgeTest extends Edges {
             .due("26 lacking once, then served", 9, x -> x.party(0, 8))
             .with(x -> x.order(0, 9), x -> x.minutes(1))
             .due("26 a new order was not lacking yet", 1, x -> x.count(6));
+        seated().with(x -> x.order(0, 4), x -> x.order(1, 3), x -> x.minutes(2), x -> x.ham(500), x -> x.minutes(2))
+            .due("26 what lacked stays its party's", 4, x -> x.party(0, 8))
+            .due("26 and so does the other's", 3, x -> x.party(1, 8));
     }
 
     /** "(What comes to the row's end in a MINUTE is not looked at again in it.)" */
@@ -306,6 +309,15 @@ public final class BoxEdgeTest extends Edges {
                 .due("26 for the other", 2, x -> x.party(1, 8))
                 .due("26 nothing for it", 0, x -> x.party(0, 8));
         }
+        seated().with(x -> x.order(1, 1), x -> x.order(0, 2), x -> x.order(1, 4), x -> x.ham(500), x -> x.rise(0))
+            .due("26 from the row's middle", 2, x -> x.count(6))
+            .with(x -> x.minutes(1))
+            .due("26 the one ahead of it is the first", 1, x -> x.party(1, 8))
+            .with(x -> x.rise(1))
+            .due("26 none is left, nor comes back", 0, x -> x.count(6));
+        seated().withEach(1, 60, i -> x -> x.order(i % 2, 1)).with(x -> x.rise(0))
+            .due("26 from a full row", 30, x -> x.count(6))
+            .due("26 there is room again", 31, x -> x.order(1, 1));
         seated().with(x -> x.order(0, 1), x -> x.order(1, 2), x -> x.close())
             .due("26 all, when the night is closed", 0, x -> x.count(6))
             .with(x -> x.ham(100), x -> x.enter(0, 1), x -> x.minutes(1))

@@ -148,6 +148,9 @@ public final class GardenEdgeTest extends Edges {
 
     /** "or none". */
     private static void wayOrNone() {
+        story(x -> x.place(9, 0), x -> x.place(9, 1), x -> x.sell(0, 9), x -> x.enter(0, 1))
+            .refuses("4 there is no walk at all", NO_WAY, x -> x.way(0, 1), x -> x.way(1, 0))
+            .refuses("8 there is no walk at all", NO_WAY, x -> x.go(0, 1));
         garden()
             .refuses("4 no walk leads there", NO_WAY, x -> x.way(0, 3), x -> x.way(3, 2))
             .with(x -> x.walk(2, 3, 1))

@@ -13,8 +13,8 @@ public final class ModelTest {
         {1, 2, 0, 2, 1, 4, 3, 2, 2, 0, 3, 0, 0, 0, 0, 0, 0, 0, 1, 2, 1, 0, 1, 1, 2, 1, 9, 4, 9, 4, 3, 4, 0, 0, 0, 3},
         {1, 1, 0, 0, 1, 30, 3, 1, 1, 1, 2, 0, 0, 0, 0, 0, 0, 0, 1, 1, 0, 0, 1, 0, 1, 0, 1, 0, 1, 0, 0, 0, 1, 1, 1, 2}};
 
-    /** A few short of what an object is used for: a text that is fed last takes several. */
-    private static final int CALLS = 480;
+    /** As many as an object is used for; a text is fed only if all of it still fits. */
+    private static final int CALLS = 512, LONGEST_FEED = 30;
 
     private final Check check = new Check();
     private long seed;
@@ -50,7 +50,7 @@ public final class ModelTest {
         }
         while (made < CALLS && check.allRight()) {
             int method = pick(weights);
-            if (method == 26 && below(4) > 0) {
+            if (method == 26 && below(4) > 0 && made + LONGEST_FEED < CALLS) {
                 feedText();
             }
             int[] a = arguments(method);

@@ -274,6 +274,13 @@ public final class NightEdgeTest extends Edges {
             .due("36 left in minute 1", 1, x -> x.doubt(1))
             .due("36 still there", 1, x -> x.doubt(2))
             .due("36 came in minute 1", 0, x -> x.doubt(3));
+        story(x -> x.place(9, 0), x -> x.place(9, 1), x -> x.walk(0, 1, 1), x -> x.sell(0, 9), x -> x.rain(1, 2))
+            .with(x -> x.enter(0, 1), x -> x.enter(1, 1), x -> x.go(0, 1), x -> x.minutes(1))
+            .with(x -> x.stolen(0, 0), x -> x.stolen(0, 1), x -> x.stolen(1, 0), x -> x.stolen(1, 1))
+            .due("35 whom rain sent away in minute 1 was there", 1, x -> x.near(0))
+            .due("35 who came in minute 1 was not yet", 0, x -> x.near(1))
+            .due("35 in minute 1 nobody was left", 0, x -> x.near(2))
+            .due("35 in minute 1 one was there", 1, x -> x.near(3));
     }
 
     /** "(behind its waiters, as for CRUSH": behind arrivals and rain. */
@@ -321,6 +328,12 @@ public final class NightEdgeTest extends Edges {
             .with(x -> x.enter(1, 1), x -> x.minutes(3), x -> x.stolen(2, 0))
             .due("35 only who is here in this night", 1, x -> x.near(0))
             .due("36 it", 1, x -> x.doubt(0));
+        garden().with(x -> x.enter(0, 1), x -> x.go(0, 1), x -> x.minutes(5), x -> x.close())
+            .with(x -> x.stolen(0, 0))
+            .due("35 nobody came yet in this night", 0, x -> x.near(0))
+            .with(x -> x.enter(0, 1), x -> x.minutes(5), x -> x.stolen(4, 1))
+            .due("35 nobody was there in this night", 0, x -> x.near(1))
+            .due("36 only at the gate, in minute 0 of this night", 1, x -> x.doubt(0));
     }
 
     /** As many stays as 512 calls can make: a hundred parties, sent under cover and called back. */

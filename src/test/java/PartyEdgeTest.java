@@ -367,6 +367,9 @@ public final class PartyEdgeTest extends Edges {
         garden().with(x -> x.enter(0, 1), x -> x.rain(1, 2), x -> x.minutes(1))
             .due("12 from the gate through an open place", 2, x -> x.party(0, 3))
             .due("12 by two walks", 6, x -> x.party(0, 4));
+        Story all = story().withEach(0, 14, i -> x -> x.place(9, 0)).with(x -> x.place(9, 1), x -> x.sell(0, 9));
+        all.withEach(1, 15, i -> x -> x.walk(0, i, i)).with(x -> x.enter(0, 1), x -> x.rain(1, 2), x -> x.minutes(1));
+        all.due("12 the last place there can be", 15, x -> x.party(0, 3));
     }
 
     /** ".. none: it stays)". */
