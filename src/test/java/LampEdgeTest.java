@@ -263,6 +263,8 @@ public final class LampEdgeTest extends Edges {
             .with(x -> x.fuse(3, 2, 10), x -> x.fuse(2, 1, 10), x -> x.fuse(1, 0, 10))
             .due("19 1 and 2 are alike", 199, x -> x.best(1))
             .due("19 of the pairs that take one second", 2, x -> x.best(2));
+        hung(3).with(x -> x.fuse(0, 1, 10), x -> x.fuse(0, 2, 10))
+            .due("19 two lighters are two, though one would do as well", 1, x -> x.best(2));
         hung(4).with(x -> x.fuse(3, 2, 10))
             .due("19 2 and 3 are alike", 299, x -> x.best(1))
             .due("19 pairs with 0", 2, x -> x.best(2));
