@@ -26,15 +26,20 @@ final class Check {
     static boolean feed(PleasureGarden x, String text) {
         for (int i = 0; i < text.length(); i += 4) {
             int n = Math.min(4, text.length() - i);
-            int v = 0;
-            for (int j = 0; j < n; j++) {
-                v |= (text.charAt(i + j) & 255) << (8 * j);
-            }
-            if (x.feed(n, v) < 0) {
+            if (x.feed(n, packed(text, i, n)) < 0) {
                 return false;
             }
         }
         return true;
+    }
+
+    /** n bytes of a text as feed takes them: the first one lowest. */
+    static int packed(String text, int from, int n) {
+        int v = 0;
+        for (int i = 0; i < n; i++) {
+            v |= (text.charAt(from + i) & 255) << (8 * i);
+        }
+        return v;
     }
 
     static int price(PleasureGarden x, int kind, int from, String text) {

@@ -98,11 +98,7 @@ public final class ModelTest {
         String text = below(5) == 0 ? noise() : text();
         for (int i = 0; i < text.length(); i += 4) {
             int n = Math.min(4, text.length() - i);
-            int v = 0;
-            for (int j = 0; j < n; j++) {
-                v |= text.charAt(i + j) << (8 * j);
-            }
-            call(25, n, v, 0);
+            call(25, n, Check.packed(text, i, n), 0);
         }
     }
 

@@ -51,12 +51,8 @@ final class Story {
     Story feed(String text) {
         for (int i = 0; i < text.length(); i += 4) {
             int n = Math.min(4, text.length() - i);
-            int v = 0;
-            for (int j = 0; j < n; j++) {
-                v |= (text.charAt(i + j) & 255) << (8 * j);
-            }
-            int bytes = v;
-            make(x -> x.feed(n, bytes));
+            int v = Check.packed(text, i, n);
+            make(x -> x.feed(n, v));
         }
         return this;
     }
